@@ -16,6 +16,7 @@ public final class TaylorModels {
     private static final int HIGHEST_DEGREE = 3;
     private static final long ONE = 1000L;
     private static final long LARGEST = 100000000L;
+    private static final long BILLION = 1000000000L;
 
     /** A polynomial's coefficients stand in slots, in the order of the checksum: i from 0 to 3, j from 0 to 3 - i. */
     private static final int SLOTS = 10;
@@ -106,8 +107,7 @@ public final class TaylorModels {
         requireBetween(y, -ONE, ONE);
         requireZeroOrOne(which);
         long exact = m.valueInBillionths(x, y);
-        long unit = ONE * ONE * ONE;
-        return (int) (which == 0 ? m.low + Math.floorDiv(exact, unit) : m.high - Math.floorDiv(-exact, unit));
+        return (int) (which == 0 ? m.low + Math.floorDiv(exact, BILLION) : m.high - Math.floorDiv(-exact, BILLION));
     }
 
     public int degree(int model) throws IndexOutOfBoundsException, NoSuchElementException {
@@ -853,7 +853,6 @@ public final class TaylorModels {
         }
 
         boolean readSetup(int length) {
-            error = 0;
             draft.mask = 0;
             text.split(length);
             if (!text.isWord("models")) {
@@ -949,7 +948,10 @@ public final class TaylorModels {
 
         /** Leaves the value in terms[level]. */
         private boolean readTerm(int level) {
-            if (level < 0 || level >= LEVELS || !readFactor(level)) {
+            if (level < 0 || level >= LEVELS) {
+                return fail(TOO_DEEP);
+            }
+            if (!readFactor(level)) {
                 return false;
             }
             Model term = terms[level];
@@ -969,7 +971,7 @@ public final class TaylorModels {
         /** Leaves the value in factors[level]. */
         private boolean readFactor(int level) {
             if (level < 0 || level >= LEVELS) {
-                return false;
+                return fail(TOO_DEEP);
             }
             Model factor = factors[level];
             if (text.isWord("x") || text.isWord("y")) {

@@ -50,6 +50,23 @@ final class BufferTest {
         Check.dueThrows("load(701)", IllegalArgumentException.class, () -> m.load(701));
         Check.due("load(700)", 0, m.load(700));
         Check.due("append afterwards", 20, m.append(0, 0, 0, 0, 0));
+        m.load(0);
+        Check.put(m, ";".repeat(700));
+        Check.due("load of 700 tokens", TaylorModels.SYNTAX_ERROR, m.load(700));
+        Check.put(m, "models;a=(" + "-".repeat(690));
+        Check.due("load of 694 tokens", TaylorModels.SYNTAX_ERROR, m.load(700));
+        Check.due("their error", 10, m.errorOffset());
+        Check.put(m, "models;a=0" + "+0".repeat(344) + "-7");
+        Check.due("load of a text without its last sign", TaylorModels.SYNTAX_ERROR, m.load(700));
+        Check.due("at the end of the buffer", 700, m.errorOffset());
+        Check.put(m, "models;a=" + "0".repeat(687) + "123;");
+        Check.due("load of a long number", 1, m.load(700));
+        Check.due("the long number", 123, m.coefficient(0, 0, 0));
+        Check.put(m, "models;" + "a=x;".repeat(173) + "h");
+        Check.due("load of many statements", TaylorModels.SYNTAX_ERROR, m.load(700));
+        Check.due("behind the last name", 700, m.errorOffset());
+        Check.put(m, "models;" + "a=x;".repeat(172) + "h=y; ");
+        Check.due("load of many statements", 2, m.load(700));
     }
 
     private static void lengths() {
@@ -61,6 +78,11 @@ final class BufferTest {
         Check.dueThrows("load(MAX)", IllegalArgumentException.class, () -> m.load(Integer.MAX_VALUE));
         Check.due("errorOffset() after loads that threw", -1, m.errorOffset());
         Check.due("load of the first 11 bytes", 1, m.load(11));
+        for (int length = 0; length < 11; length++) {
+            Check.put(m, "models;a=x;");
+            Check.due("load(" + length + ")", length == 7 ? 0 : TaylorModels.SYNTAX_ERROR, m.load(length));
+            Check.due("its offset", length < 6 ? 0 : length == 7 ? -1 : length, m.errorOffset());
+        }
     }
 
     private static void bufferIsEmptyAfterwards() {

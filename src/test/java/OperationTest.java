@@ -56,6 +56,19 @@ final class OperationTest {
         Check.dueThrows("add of remainders, too low", STATE, () -> m.add(7, 0, 1));
         m.setRemainder(1, 0, 0);
         Check.due("the widest remainder", 2 * MOST, m.add(7, 0, 1));
+        TaylorModels n = Check.loaded("models;a=0;b=0;");
+        n.setRemainder(0, MOST - 1, MOST - 1);
+        n.setRemainder(1, 1, 1);
+        Check.due("the highest remainder", 0, n.add(2, 0, 1));
+        shows("it is", n, 2, "100000000 to 100000000");
+        n.setRemainder(1, 1, 2);
+        Check.dueThrows("a higher one", STATE, () -> n.add(2, 0, 1));
+        n.setRemainder(0, 1 - MOST, 1 - MOST);
+        n.setRemainder(1, -1, -1);
+        Check.due("the lowest remainder", 0, n.add(2, 0, 1));
+        shows("it is", n, 2, "-100000000 to -100000000");
+        n.setRemainder(1, -2, -1);
+        Check.dueThrows("a lower one", STATE, () -> n.add(2, 0, 1));
     }
 
     private static void differences() {
@@ -86,6 +99,28 @@ final class OperationTest {
         shows("x^4", m, 6, "0 to 1000");
         Check.due("x^2 * x y / 2", 1000, m.multiply(6, 2, 3));
         shows("x^3 y / 2", m, 6, "-500 to 500");
+        lost("x*x*x", "x", "0 to 1000");
+        lost("y*y*y", "y", "0 to 1000");
+        lost("x*y", "x*y", "0 to 1000");
+        lost("x*x*y", "y", "0 to 1000");
+        lost("x*x*x", "y", "-1000 to 1000");
+        lost("y*y*y", "x", "-1000 to 1000");
+        lost("x*x*x", "x*x", "-1000 to 1000");
+        lost("x*x*x", "x*y", "-1000 to 1000");
+        lost("x*x*x", "y*y", "-1000 to 1000");
+        lost("x*x", "y*y*y", "-1000 to 1000");
+        lost("x*y*y", "y*y", "-1000 to 1000");
+        lost("y*y*y", "y*y", "-1000 to 1000");
+        lost("x*x*x", "x*x*x", "0 to 1000");
+        lost("x*x*y", "x*x*x", "-1000 to 1000");
+        lost("x*x*x", "x*y*y", "0 to 1000");
+        lost("x*x*x", "y*y*y", "-1000 to 1000");
+        lost("x*y*y", "x*y*y", "0 to 1000");
+        lost("x*y*y", "y*y*y", "-1000 to 1000");
+        lost("y*y*y", "0-y*y*y", "-1000 to 0");
+        lost("x*x+x*y", "x*x-x*y", "-1000 to 1000");
+        // x^4 + 2 x^3 y + x^2 y^2.
+        lost("x*x+x*y", "x*x+x*y", "-2000 to 4000");
         // Remainders: 2 * -3 to 2 * 5 twice, and the product -3 to 5 times itself, -0.015 to 0.025.
         Check.due("multiply(6, 4, 4)", 21 + 13, m.multiply(6, 4, 4));
         shows("the square of a constant with a remainder", m, 6, "4000 x0y0, -13 to 21");
@@ -100,6 +135,13 @@ final class OperationTest {
         shows("(x + y)^2", m, 0, "1000 x0y2, 2000 x1y1, 1000 x2y0, 0 to 0");
         Check.due("in the place of the second", 0, m.multiply(1, 2, 1));
         shows("x^2 (x - y)", m, 1, "-1000 x2y1, 1000 x3y0, 0 to 0");
+    }
+
+    /** The product has no term with i + j up to 3; its remainder is what the others leave. */
+    private static void lost(String first, String second, String want) {
+        TaylorModels m = Check.loaded("models;a=" + first + ";b=" + second + ";");
+        m.multiply(2, 0, 1);
+        shows("(" + first + ") * (" + second + ")", m, 2, want);
     }
 
     private static void productRounding() {

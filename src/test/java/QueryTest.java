@@ -11,6 +11,7 @@ final class QueryTest {
         remainders();
         bounds();
         values();
+        finestValues();
         largestValues();
         degrees();
         covering();
@@ -114,6 +115,22 @@ final class QueryTest {
         }
     }
 
+    /** Exact values are not rounded; what is off by a billionth of a thousandth is. */
+    private static void finestValues() {
+        TaylorModels m = Check.loaded("models;a=x;");
+        Check.due("value at 0.999 of x, lower", 999, m.value(0, 999, 5, 0));
+        Check.due("value at 0.999 of x, upper", 999, m.value(0, 999, 5, 1));
+        m.setCoefficient(0, 0, 3, -1);
+        Check.due("value of x - 0.001 y^3 at 0.999, 0.005, lower", 998, m.value(0, 999, 5, 0));
+        Check.due("value of x - 0.001 y^3 at 0.999, 0.005, upper", 999, m.value(0, 999, 5, 1));
+        Check.due("value of x - 0.001 y^3 at 0.999, -0.005, lower", 999, m.value(0, 999, -5, 0));
+        Check.due("value of x - 0.001 y^3 at 0.999, -0.005, upper", 1000, m.value(0, 999, -5, 1));
+        m.setCoefficient(0, 0, 3, 1);
+        Check.due("value of x + 0.001 y^3 at 0.999, 0.001, lower", 999, m.value(0, 999, 1, 0));
+        Check.due("value of x + 0.001 y^3 at 0.999, -0.001, lower", 998, m.value(0, 999, -1, 0));
+        Check.due("value of x + 0.001 y^3 at 0.999, 0.001, upper", 1000, m.value(0, 999, 1, 1));
+    }
+
     private static void largestValues() {
         TaylorModels m = Check.loaded("models;a=0;b=0;");
         for (int i = 0; i <= 3; i++) {
@@ -192,9 +209,43 @@ final class QueryTest {
         Check.due("reason(0, 4, 4)", 0, m.reason(0, 4, 4));
         Check.due("reason(0, 5, 4)", 1, m.reason(0, 5, 4));
         Check.due("reason(1, 4, 5)", 2, m.reason(1, 4, 5));
+        squares();
         Check.due("reason changes nothing", sum, m.checksum());
         Check.due("reason is no change", 0, m.undo());
         Check.due("load was the only one", -1, m.undo());
+    }
+
+    /** The bound is within the square or not, with a remainder more on one side. */
+    private static void squares() {
+        square("x*500", -500, 0, 0);
+        square("x*500", -501, 0, 1);
+        square("x*500", 0, 500, 0);
+        square("x*500", 0, 501, 1);
+        square("x*500", 500, 500, 0);
+        square("x*500", 501, 501, 1);
+        square("x*500", -501, -501, 1);
+        square("1500", -2500, -499, 1);
+        square("1500", -2500, -500, 0);
+        square("1500", -2501, -500, 1);
+        square("0-1500", 500, 2500, 0);
+        square("0-1500", 499, 2500, 1);
+        square("0-1500", 500, 2501, 1);
+        square("x*x*2000-1000", 0, 0, 0);
+        square("x*x*2001-1000", 0, 0, 1);
+        square("x*x*2000-1001", 0, 0, 1);
+        square("x*x*2000-1001", 1, 1, 0);
+        square("x*x*1999-1001", 1, 2, 0);
+        square("1000-y*y*2000", 0, 0, 0);
+        square("1000-y*y*2001", 0, 0, 1);
+    }
+
+    private static void square(String sum, int low, int high, int want) {
+        TaylorModels m = Check.loaded("models;a=" + sum + ";b=0;");
+        m.setRemainder(0, low, high);
+        String model = sum + " with " + low + " to " + high;
+        Check.due("reason for " + model + " as first", want, m.reason(1, 0, 1));
+        Check.due("reason for " + model + " as second", 2 * want, m.reason(1, 1, 0));
+        Check.due("reason for " + model + " as both", want, m.reason(1, 0, 0));
     }
 
     private static void reasonTooLarge() {
@@ -219,6 +270,17 @@ final class QueryTest {
         Check.due("a remainder of -10^8 - 1", 3, m.reason(0, 1, 3));
         m.setRemainder(0, 0, 0);
         Check.due("a remainder of 10^8", 0, m.reason(0, 1, 3));
+        TaylorModels n = Check.loaded("models;a=0;b=x*x*2000-1000;c=0;d=1000;e=x;");
+        n.setCoefficient(0, 1, 1, MOST / 2);
+        Check.due("a product as large as there is", 0, n.reason(0, 1, 2));
+        n.setCoefficient(0, 1, 1, MOST / 2 + 1);
+        Check.due("a product that is too large on the way only", 3, n.reason(0, 1, 2));
+        Check.due("the other way round it is 0 at once", 0, n.reason(0, 2, 1));
+        n.setCoefficient(0, 1, 1, 0);
+        n.setCoefficient(0, 0, 0, 1);
+        n.setCoefficient(0, 1, 0, MOST);
+        Check.due("1 + 10^8 at 1", 3, n.reason(0, 3, 4));
+        Check.due("1 + 10^8 x", 0, n.reason(0, 4, 3));
         Check.dueThrows("reason(7, 0, 0)", MISSING, () -> m.reason(7, 0, 0));
         Check.dueThrows("reason(0, 7, 0)", MISSING, () -> m.reason(0, 7, 0));
         Check.dueThrows("reason(0, 0, 7)", MISSING, () -> m.reason(0, 0, 7));

@@ -114,6 +114,13 @@ final class SetupTest {
         error("models;a=i;", SYNTAX, 9);
         error("models;a=z;", SYNTAX, 9);
         error("models;a=xy;", SYNTAX, 9);
+        error("models;a=xz;", SYNTAX, 9);
+        error("models;a=zx;", SYNTAX, 9);
+        error("models;a=x{;", SYNTAX, 10);
+        error("models;a=x`;", SYNTAX, 10);
+        error("models;a=x:;", SYNTAX, 10);
+        error("models;\u0000", SYNTAX, 7);
+        error("models;\u0001", SYNTAX, 7);
         error("models;a=models;", SYNTAX, 9);
         error("models;a=x*;", SYNTAX, 11);
         error("models;a=x+;", SYNTAX, 11);
