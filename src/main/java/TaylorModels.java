@@ -637,10 +637,11 @@ public final class TaylorModels {
             return product.fits();
         }
 
+        /** Most models have few terms, and the constants that compositions start from have one: zeros are skipped. */
         private void collectProducts(Model a, Model b) {
             Arrays.fill(products, 0L);
             for (int k = 0; k < SLOTS; k++) {
-                for (int m = 0; m < SLOTS; m++) {
+                for (int m = 0; a.coefficients[k] != 0L && m < SLOTS; m++) {
                     int place = (X_POWER[k] + X_POWER[m]) * SIDE + Y_POWER[k] + Y_POWER[m];
                     products[place] += a.coefficients[k] * b.coefficients[m];
                 }
