@@ -432,6 +432,7 @@ public final class TaylorModels {
             return spreadHigh() + high;
         }
 
+        /** Not by way of boundLow and boundHigh, as rule 11 of LANGUAGE.md keeps chains of calls short. */
         boolean staysInSquare() {
             return spreadLow() + low >= -ONE && spreadHigh() + high <= ONE;
         }
