@@ -1,4 +1,6 @@
 import java.nio.charset.StandardCharsets;
+import java.util.HashSet;
+import java.util.Set;
 
 /** Counts answers that are not due, and tells of each; every test program ends with finish. */
 final class Check {
@@ -6,17 +8,32 @@ final class Check {
         long answer();
     }
 
+    private static final Set<String> SENTENCES = new HashSet<>();
     private static int asked = 0;
     private static int wrong = 0;
+    private static String held = "";
 
     private Check() {
+    }
+
+    /** Names the sentence of the document that the answers after this are due by, until the next one is named. */
+    static void sentence(String heading, String words) {
+        held = "\n    by \"" + words + "\", " + heading;
+        if (SENTENCES.add(held)) {
+            due("whether the document says so", true, Document.says(heading, words));
+        }
+    }
+
+    /** The answers after this are due by no sentence of the document. */
+    static void noSentence() {
+        held = "";
     }
 
     static void due(String call, String want, String got) {
         asked++;
         if (!want.equals(got)) {
             wrong++;
-            System.out.println(call + " answered " + got + ", due is " + want);
+            System.out.println(call + " answered " + got + ", due is " + want + held);
         }
     }
 
@@ -83,6 +100,43 @@ final class Check {
             }
         }
         return text.append(models.remainder(model, 0)).append(" to ").append(models.remainder(model, 1)).toString();
+    }
+
+    /** An object with these models from 0 on, told as shown tells them; null stands for one that is not defined. */
+    static TaylorModels holding(String... models) {
+        StringBuilder text = new StringBuilder("models;");
+        for (int k = 0; k < models.length; k++) {
+            text.append(models[k] == null ? "" : (char) ('a' + k) + "=0;");
+        }
+        TaylorModels object = loaded(text.toString());
+        for (int k = 0; k < models.length; k++) {
+            if (models[k] != null) {
+                fill(object, k, models[k]);
+            }
+        }
+        return object;
+    }
+
+    private static void fill(TaylorModels object, int model, String told) {
+        String[] parts = told.split(", ");
+        for (int p = 0; p < parts.length - 1; p++) {
+            String[] term = parts[p].split("[ xy]+");
+            int value = Integer.parseInt(term[0]);
+            object.setCoefficient(model, Integer.parseInt(term[1]), Integer.parseInt(term[2]), value);
+        }
+        String[] ends = parts[parts.length - 1].split(" to ");
+        object.setRemainder(model, Integer.parseInt(ends[0]), Integer.parseInt(ends[1]));
+    }
+
+    /** What a model is after a call; or the exception that the call threw, which must have changed nothing. */
+    static String becomes(TaylorModels models, int model, Call made) {
+        long before = models.checksum();
+        String outcome = outcome(made);
+        if (!outcome.startsWith("throws.")) {
+            return shown(models, model);
+        }
+        due("whether all is as before a call that threw", true, before == models.checksum());
+        return outcome;
     }
 
     static void finish(String program) {

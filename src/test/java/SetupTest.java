@@ -20,17 +20,17 @@ final class SetupTest {
         Check.finish("SetupTest");
     }
 
-    private static void value(String text, int model, String want) {
+    static void value(String text, int model, String want) {
         Check.due(text, want, Check.shown(Check.loaded(text), model));
     }
 
-    private static void fine(String text, int want) {
+    static void fine(String text, int want) {
         TaylorModels m = new TaylorModels();
         Check.due(text, want, Check.load(m, text));
         Check.due("errorOffset() of " + text, -1, m.errorOffset());
     }
 
-    private static void error(String text, int code, int offset) {
+    static void error(String text, int code, int offset) {
         TaylorModels m = new TaylorModels();
         Check.due(text, code, Check.load(m, text));
         Check.due("errorOffset() of " + text, offset, m.errorOffset());
