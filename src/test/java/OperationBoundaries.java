@@ -55,12 +55,31 @@ final class OperationBoundaries {
         ModelBoundaries.product("500 x2y0, 500 x1y1, 0 to 0", "1 x2y0, 0 to 0", "-1 to 1");
         ModelBoundaries.product("500 x2y0, 501 x1y1, 0 to 0", "1 x2y0, 0 to 0", "-1 to 2");
         ModelBoundaries.product("1000 x2y0, 1000 x1y1, 0 to 0", "1 x2y0, 0 to 0", "-1 to 2");
+        spreadTimesRemainder("3000 x2y0", "1000 to 2000", "0 to 6000");
+        spreadTimesRemainder("-3000 x2y0", "1000 to 2000", "-6000 to 0");
+        spreadTimesRemainder("3000 x1y1", "1000 to 2000", "-6000 to 6000");
+        spreadTimesRemainder("3000 x1y0", "-1000 to 2000", "-6000 to 6000");
+        spreadTimesRemainder("1000 x0y0, 500 x0y2", "-2 to 4", "-3 to 6");
+        spreadTimesRemainder("1000 x0y0, -500 x0y2", "-2 to 4", "-2 to 4");
+        spreadTimesRemainder("-1000 x0y0, 500 x0y2", "-2 to 4", "-4 to 2");
+        spreadTimesRemainder("-1000 x0y0, -500 x0y2", "-2 to 4", "-6 to 3");
+        spreadTimesRemainder("1000 x0y0, 500 x0y2", "2 to 4", "2 to 6");
+        spreadTimesRemainder("1000 x0y0, -500 x0y2", "2 to 4", "1 to 4");
+        spreadTimesRemainder("-1000 x0y0, 500 x0y2", "2 to 4", "-4 to -1");
+        spreadTimesRemainder("-1000 x0y0, -500 x0y2", "2 to 4", "-6 to -2");
+        spreadTimesRemainder("1000 x0y0, 500 x2y0", "-4 to -2", "-6 to -2");
+        spreadTimesRemainder("-1000 x0y0, 500 x2y0", "-4 to -2", "1 to 4");
         Check.sentence(TERMS, "(It is 0 to 0 at first; the remainders of A and B themselves are not in it.)");
         ModelBoundaries.product("-5 to 7", "0 to 0", "0 to 0");
         ModelBoundaries.product("0 to 0", "-5 to 7", "0 to 0");
         ModelBoundaries.product("0 to 0", "0 to 0", "0 to 0");
         ModelBoundaries.product("2000 x0y0, 0 to 0", "-5 to 7", "-10 to 14");
         ModelBoundaries.product("-5 to 7", "1000 x0y0, 0 to 0", "-5 to 7");
+    }
+
+    private static void spreadTimesRemainder(String polynomial, String remainder, String want) {
+        ModelBoundaries.product(polynomial + ", 0 to 0", remainder, want);
+        ModelBoundaries.product(remainder, polynomial + ", 0 to 0", want);
     }
 
     /** Models whose bound ends at a point of the square, and one thousandth further; by a polynomial, and with more. */

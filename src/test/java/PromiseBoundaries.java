@@ -94,6 +94,18 @@ final class PromiseBoundaries {
         Check.due("load(700)", 1, m.load(700));
         Check.due("the last bytes are those of the append to 700", 7, m.coefficient(0, 0, 0));
         Check.due("append to the empty buffer", 20, m.append(0, 0, 0, 0, 0));
+        fullOfTokens(";".repeat(700), 0);
+        fullOfTokens("models;a=" + "(".repeat(4) + "+".repeat(687), 13);
+        fullOfTokens("models;a=1" + "+1".repeat(345), 700);
+        fullOfTokens("models;" + "a=1;".repeat(173) + "a", 700);
+    }
+
+    /** A text that fills the buffer, with an error. */
+    private static void fullOfTokens(String text, int offset) {
+        TaylorModels m = new TaylorModels();
+        Check.due("load of " + text, SYNTAX, Check.load(m, text));
+        Check.due("its offset", offset, m.errorOffset());
+        Check.due("its length", 700, text.length());
     }
 
     private static void firstBytes() {
@@ -116,6 +128,21 @@ final class PromiseBoundaries {
         Check.put(m, "models;d=12;");
         Check.due("load of the whole", 1, m.load(12));
         Check.due("the number", 12, m.coefficient(3, 0, 0));
+        firstBytesAlone("models;h=x*100000*100000*10000;a=h+x;");
+        firstBytesAlone("models;a=x*12;b=a[intx(y),y]+inty(a)#34;c=models;");
+    }
+
+    /** What follows the first bytes in the buffer makes no difference, nor does it when it was read before. */
+    private static void firstBytesAlone(String text) {
+        for (int length = 0; length <= text.length(); length++) {
+            TaylorModels used = new TaylorModels();
+            Check.load(used, text);
+            Check.put(used, text);
+            TaylorModels fresh = new TaylorModels();
+            Check.put(fresh, text.substring(0, length));
+            Check.due("load(" + length + ") of " + text, fresh.load(length), used.load(length));
+            Check.due("its offset", fresh.errorOffset(), used.errorOffset());
+        }
     }
 
     private static void emptyAfterwards() {

@@ -471,6 +471,10 @@ final class SetupBoundaries {
         SetupTest.fine(LARGEST + "a=h+1000*0*h;", 3);
         faulty(REFUSED, LARGEST + "a=h+1000*1!;");
         faulty(REFUSED, LARGEST + "a=h+1000*500*2!+x;");
+        faulty(SYNTAX, LARGEST + "a=h+1*!$;");
+        faulty(SYNTAX, LARGEST + "a=h+1*!");
+        faulty(UNDEFINED, LARGEST + "a=h+1*!c;");
+        faulty(RANGE, LARGEST + "a=h+1*!100001;");
         SetupTest.fine(LARGEST + "a=h+(1-1);", 3);
     }
 
