@@ -450,6 +450,7 @@ final class SetupBoundaries {
         faulty(UNDEFINED, LARGEST + "a=1001*h[x,!c];");
         faulty(SYNTAX, LARGEST + "a=1001*h[x,y!;");
         faulty(SYNTAX, LARGEST + "a=1001*h[!;");
+        faulty(DEEP, LARGEST + "a=((((1001*h![x,y]))));");
     }
 
     private static void refusedTerm() {
