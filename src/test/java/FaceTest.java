@@ -7,13 +7,31 @@ import java.util.TreeSet;
 
 /** The face: what the document lists, and nothing else that is seen from outside. */
 final class FaceTest {
+    /** Each with the exceptions that it declares, in their order and without the word at their end. */
     private static final String[] METHODS = {
-        "int append(int,int,int,int,int)", "int load(int)", "int errorOffset()", "int defined()",
-        "int coefficient(int,int,int)", "int remainder(int,int)", "int bound(int,int)", "int value(int,int,int,int)",
-        "int degree(int)", "boolean covers(int,int)", "int reason(int,int,int)", "int add(int,int,int)",
-        "int subtract(int,int,int)", "int multiply(int,int,int)", "int compose(int,int,int,int)",
-        "int integrate(int,int,int)", "int step(int,int)", "int sweep(int,int)", "int wrap(int,int)",
-        "int setCoefficient(int,int,int,int)", "int setRemainder(int,int,int)", "boolean clear(int)", "int undo()",
+        "int append(int,int,int,int,int)",
+        "int load(int) throws IllegalArgument",
+        "int errorOffset()",
+        "int defined()",
+        "int coefficient(int,int,int) throws IndexOutOfBounds NoSuchElement IllegalArgument",
+        "int remainder(int,int) throws IndexOutOfBounds NoSuchElement IllegalArgument",
+        "int bound(int,int) throws IndexOutOfBounds NoSuchElement IllegalArgument",
+        "int value(int,int,int,int) throws IndexOutOfBounds NoSuchElement IllegalArgument",
+        "int degree(int) throws IndexOutOfBounds NoSuchElement",
+        "boolean covers(int,int) throws IndexOutOfBounds NoSuchElement",
+        "int reason(int,int,int) throws IndexOutOfBounds NoSuchElement",
+        "int add(int,int,int) throws IndexOutOfBounds NoSuchElement IllegalState",
+        "int subtract(int,int,int) throws IndexOutOfBounds NoSuchElement IllegalState",
+        "int multiply(int,int,int) throws IndexOutOfBounds NoSuchElement IllegalState",
+        "int compose(int,int,int,int) throws IndexOutOfBounds NoSuchElement IllegalState",
+        "int integrate(int,int,int) throws IndexOutOfBounds NoSuchElement IllegalArgument IllegalState",
+        "int step(int,int) throws NoSuchElement IllegalArgument",
+        "int sweep(int,int) throws IndexOutOfBounds NoSuchElement IllegalArgument IllegalState",
+        "int wrap(int,int) throws IndexOutOfBounds NoSuchElement IllegalArgument IllegalState",
+        "int setCoefficient(int,int,int,int) throws IndexOutOfBounds NoSuchElement IllegalArgument",
+        "int setRemainder(int,int,int) throws IndexOutOfBounds NoSuchElement IllegalArgument",
+        "boolean clear(int) throws IndexOutOfBounds",
+        "int undo()",
         "long checksum()"
     };
 
@@ -67,7 +85,13 @@ final class FaceTest {
             text.append(comma).append(type.getName());
             comma = ",";
         }
-        return text.append(')').toString();
+        text.append(')');
+        String before = " throws ";
+        for (Class<?> type : method.getExceptionTypes()) {
+            text.append(before).append(type.getSimpleName().replace("Exception", ""));
+            before = " ";
+        }
+        return text.toString();
     }
 
     private static void constructors() {
